@@ -253,19 +253,35 @@ public final class BeamSeats {
     }
 
     public int gets(int thing) {
-        return firstSecond(thing, COMES_ON);
+        if (!real.has(thing)) {
+            return found(BEYOND);
+        }
+        trial.becomes(real);
+        return orNone(secondsUntil(thing, COMES_ON, MOST_AHEAD));
     }
 
     public int dry(int thing) {
-        return firstSecond(thing, IS_DRY);
+        if (!real.has(thing)) {
+            return found(BEYOND);
+        }
+        trial.becomes(real);
+        return orNone(secondsUntil(thing, IS_DRY, MOST_AHEAD));
     }
 
     public int lost(int thing) {
-        return firstSecond(thing, IS_LOST);
+        if (!real.has(thing)) {
+            return found(BEYOND);
+        }
+        trial.becomes(real);
+        return orNone(secondsUntil(thing, IS_LOST, MOST_AHEAD));
     }
 
     public int arrives(int thing) {
-        return firstSecond(thing, ARRIVES);
+        if (!real.has(thing)) {
+            return found(BEYOND);
+        }
+        trial.becomes(real);
+        return orNone(secondsUntil(thing, ARRIVES, MOST_AHEAD));
     }
 
     // ---- what is best
@@ -352,7 +368,7 @@ public final class BeamSeats {
                 best = i;
             }
         }
-        return best == NONE ? found(NONE) : best;
+        return orNone(best);
     }
 
     public int goal(int thing) {
@@ -371,7 +387,7 @@ public final class BeamSeats {
                 most = n - 1;
             }
         }
-        return best == NONE ? found(NONE) : best;
+        return orNone(best);
     }
 
     // ---- the text
@@ -559,6 +575,10 @@ public final class BeamSeats {
         return finding;
     }
 
+    private int orNone(int answer) {
+        return answer == NONE ? found(NONE) : answer;
+    }
+
     private static boolean within(int v, int least, int most) {
         return v >= least && v <= most;
     }
@@ -610,15 +630,6 @@ public final class BeamSeats {
             default:
                 return -1;
         }
-    }
-
-    private int firstSecond(int thing, int event) {
-        if (!real.has(thing)) {
-            return found(BEYOND);
-        }
-        trial.becomes(real);
-        int n = secondsUntil(thing, event, MOST_AHEAD);
-        return n == NONE ? found(NONE) : n;
     }
 
     /** Goes on with the trial as it stands until the event, for so many seconds at most. */
@@ -878,7 +889,7 @@ public final class BeamSeats {
         }
     }
 
-    /** The bytes of a text, and its reading, token by token. */
+    /** The bytes of a text, the tokens that they are cut into, and their reading. */
     private static final class Tape {
         private static final int END = 0;
         private static final int WORD = 1;
@@ -897,11 +908,12 @@ public final class BeamSeats {
 
         final byte[] bytes = new byte[MOST_TAPE];
         int size = 0;
-        private int place = 0;
-        /** The token that is looked at: where it begins, what it is, and its number or word. */
-        private int start = 0;
-        private int token = END;
-        private int value = 0;
+        /** Of each token: what it is, where it begins, its word or number; the last is END. */
+        private final int[] tokens = new int[MOST_TAPE + 1];
+        private final int[] starts = new int[MOST_TAPE + 1];
+        private final int[] values = new int[MOST_TAPE + 1];
+        /** The token that is looked at; none is passed but WORD, NUMBER and SIGN, so END stays ahead. */
+        private int next = 0;
         /** The number that was read latest. */
         private int number = 0;
 
@@ -913,49 +925,42 @@ public final class BeamSeats {
 
         /** How many items came to the island, or -1 less the place of the fault. */
         int tell(Island to) {
-            place = 0;
-            for (int items = 1; items <= MOST_TAPE; items++) {
-                nextToken();
-                if (!tellItem(to)) {
-                    break;
-                }
-                if (token == END) {
+            cutTokens();
+            next = 0;
+            for (int items = 1; items <= MOST_TAPE && tellItem(to); items++) {
+                if (tokens[next] == END) {
                     return items;
                 }
-                if (token != SIGN) {
+                if (tokens[next] != SIGN) {
                     break;
                 }
+                next++;
             }
-            return -1 - start;
+            return -1 - starts[next];
         }
 
         /** Whether an item stands here; if not, the token looked at is the one at fault. */
         private boolean tellItem(Island to) {
-            if (token != WORD) {
+            if (tokens[next] != WORD) {
                 return false;
             }
-            switch (value) {
-                case BEAM_WORD:
-                    if (!numberBehind(0, MOST_BEARING)) {
-                        return false;
-                    }
-                    to.bearing = number;
-                    return true;
-                case SPEED_WORD:
-                    if (!numberBehind(1, MOST_SPEED)) {
-                        return false;
-                    }
-                    to.speed = number;
-                    return true;
-                case THICK_WORD:
-                    if (!numberBehind(1, MOST_THICK)) {
-                        return false;
-                    }
-                    to.thick = number;
-                    return true;
-                default:
-                    return value <= MOST_KIND && tellThing(to, value);
+            int word = values[next];
+            if (word <= MOST_KIND) {
+                return tellThing(to, word);
             }
+            if (word == BEAM_WORD && numberBehind(0, MOST_BEARING)) {
+                to.bearing = number;
+                return true;
+            }
+            if (word == SPEED_WORD && numberBehind(1, MOST_SPEED)) {
+                to.speed = number;
+                return true;
+            }
+            if (word == THICK_WORD && numberBehind(1, MOST_THICK)) {
+                to.thick = number;
+                return true;
+            }
+            return false;
         }
 
         private boolean tellThing(Island to, int kind) {
@@ -970,7 +975,7 @@ public final class BeamSeats {
 
         /** A part that may be left out: only a word that stands here needs its number. */
         private boolean tellPart(int word, int most, int[] row, int i) {
-            if (token != WORD || value != word) {
+            if (tokens[next] != WORD || values[next] != word) {
                 return true;
             }
             if (!numberBehind(0, most)) {
@@ -982,58 +987,72 @@ public final class BeamSeats {
 
         /** Goes from a word over the number behind it, or stays at what stands there instead. */
         private boolean numberBehind(int least, int most) {
-            nextToken();
-            if (token != NUMBER || !within(value, least, most)) {
+            next++;
+            if (tokens[next] != NUMBER || !within(values[next], least, most)) {
                 return false;
             }
-            number = value;
-            nextToken();
+            number = values[next];
+            next++;
             return true;
         }
 
-        private void nextToken() {
-            while (place < size && bytes[place] == ' ') {
-                place++;
+        private void cutTokens() {
+            int cut = 0;
+            int end = 0;
+            for (int place = 0; place < size; place++) {
+                if (place >= end && bytes[place] != ' ') {
+                    end = cutToken(cut, place);
+                    cut++;
+                }
             }
-            start = place;
-            if (place >= size) {
-                token = END;
-            } else if (isLetter(bytes[place])) {
-                token = WORD;
-                passWord();
+            tokens[cut] = END;
+            starts[cut] = size;
+        }
+
+        /** Where the token that begins at a place ends. */
+        private int cutToken(int cut, int place) {
+            int end = place + 1;
+            starts[cut] = place;
+            if (isLetter(bytes[place])) {
+                while (end < size && isLetter(bytes[end])) {
+                    end++;
+                }
+                tokens[cut] = WORD;
+                values[cut] = wordAt(place, end);
             } else if (isDigit(bytes[place])) {
-                token = NUMBER;
-                passNumber();
+                while (end < size && isDigit(bytes[end])) {
+                    end++;
+                }
+                tokens[cut] = NUMBER;
+                values[cut] = numberAt(place, end);
             } else {
-                token = bytes[place] == ';' ? SIGN : NO_TOKEN;
-                place++;
+                tokens[cut] = bytes[place] == ';' ? SIGN : NO_TOKEN;
             }
+            return end;
         }
 
-        private void passWord() {
-            while (place < size && isLetter(bytes[place])) {
-                place++;
+        private int wordAt(int start, int end) {
+            int word = 0;
+            while (word < OTHER_WORD && !isSpelt(wordOf(word), start, end)) {
+                word++;
             }
-            value = 0;
-            while (value < OTHER_WORD && !isWord(wordOf(value))) {
-                value++;
-            }
+            return word;
         }
 
-        private void passNumber() {
-            value = 0;
-            while (place < size && isDigit(bytes[place])) {
-                value = Math.min(value * 10 + (bytes[place] - '0'), ABOVE_ALL_NUMBERS);
-                place++;
+        private int numberAt(int start, int end) {
+            int all = 0;
+            for (int k = start; k < end; k++) {
+                all = Math.min(all * 10 + (bytes[k] - '0'), ABOVE_ALL_NUMBERS);
             }
+            return all;
         }
 
-        private boolean isWord(String word) {
-            if (place - start != word.length()) {
+        private boolean isSpelt(String word, int start, int end) {
+            if (end - start != word.length()) {
                 return false;
             }
-            for (int k = 0; k < word.length(); k++) {
-                if (bytes[start + k] != word.charAt(k)) {
+            for (int k = start; k < end; k++) {
+                if (bytes[k] != word.charAt(k - start)) {
                     return false;
                 }
             }
