@@ -289,6 +289,7 @@ public final class PromisesTest {
         due("9: turn(0, -1)", x.turn(0, -1), BEYOND);
         due("9: turn(1, 0)", x.turn(1, 0), BEYOND);
         due("9: to what it is", x.turn(0, GUEST), GUEST);
+        due("9: to a thing", x.turn(0, THING), GUEST);
     }
 
     private static void p10As() {
@@ -424,7 +425,7 @@ public final class PromisesTest {
         x.carry(0, 10);
         x.set(0, WET, 0);
         due("13: a dry one stays", x.seconds(12), 0);
-        x.set(0, WET, 6);
+        x.set(0, WET, 1);
         x.beam(0, 5);
         due("13: a bit wet one comes on", x.seconds(1), 1);
         due("13: dry by then", x.of(0, WET), 0);
@@ -536,6 +537,7 @@ public final class PromisesTest {
         for (int what = 0; what < 5; what++) {
             due("14: on(0, 4, " + what + ")", x.on(0, 4, what), due[what]);
         }
+        due("14: not on yet", x.on(0, 2, 1), 0);
         due("14: lost ahead", x.on(1, 29, 3), 1);
         due("14: not yet", x.on(1, 28, 3), 0);
         due("14: 0 seconds", x.on(0, 0, 0), 6);
@@ -758,11 +760,13 @@ public final class PromisesTest {
         due("24: no one is lost so soon", x.save(28), 1);
         due("24: the rider is safe, a thing is not", x.save(29), 2);
         due("24: it is on still", x.now(4), 14);
+        x.lay(0);
+        due("24: the first, and then two are lost", x.save(120), 0);
         due("24: save(0)", x.save(0), BEYOND);
         due("24: save(121)", x.save(121), BEYOND);
-        x.take(1);
-        x.take(2);
-        x.take(3);
+        for (int i = 0; i < 4; i++) {
+            x.take(i);
+        }
         due("24: none again", x.save(120), NONE);
         due("24: beyond comes first", x.save(0), BEYOND);
     }
@@ -888,6 +892,9 @@ public final class PromisesTest {
         due("28: beam", x.now(1), 0);
         due("28: speed", x.now(2), 2);
         due("28: thick", x.now(3), 20);
+        due("28: as many tokens as bytes", tell(x, ";".repeat(120)), -1);
+        due("28: a word in a full tape", tell(x, "beam 1;" + " ".repeat(112) + "x"), -1 - 119);
+        due("28: ends too early, full", tell(x, "beam 1;" + " ".repeat(113)), -1 - 120);
         due("28: bytes above 127 begin no token", tell(x, "beam 1" + (char) 233), -1 - 6);
     }
 
@@ -924,6 +931,9 @@ public final class PromisesTest {
         due("29: it is there as it was", x.write(0, 39, 5), 0);
         due("29: made anew", x.sheet(0, 8, 40), 40);
         due("29: all 0", x.write(0, 39, 5), 0);
+        x.write(0, 0, 7);
+        x.sheet(0, 8, 1);
+        due("29: the first too", x.write(0, 0, 5), 0);
         due("29: missing", x.sheet(0, 0, 40), 0);
         due("29: missing indeed", x.write(0, 0, 5), MISSING);
         due("29: one without numbers isn't missing", x.write(3, 0, 5), BEYOND);
@@ -979,6 +989,7 @@ public final class PromisesTest {
         due("31: none", x.copy(0, 5, 1, 3, 0), 0);
         due("31: no such sheet", x.copy(4, 0, 3, 0, 0), BEYOND);
         due("31: no such other", x.copy(3, 0, -1, 0, 0), BEYOND);
+        due("31: no such other above", x.copy(0, 0, 4, 0, 0), BEYOND);
         due("31: missing", x.copy(3, 0, 0, 0, 0), MISSING);
         due("31: the other is missing", x.copy(0, -1, 3, 0, 0), MISSING);
         due("31: other bits", x.copy(0, -1, 2, 0, 0), KIND);
