@@ -28,6 +28,7 @@ public final class BoundaryBestTest extends Boundary {
         p24NoneIsOn();
         p24FirstAndLast();
         p24OfSeveralTheLeast();
+        p24FewestMayBeAll();
         p24At120();
         p25Thing();
         p25GoalIs0To59();
@@ -83,6 +84,12 @@ public final class BoundaryBestTest extends Boundary {
         // as a sheet it comes on with 4 and 5 and dries by 2 more
         looks("20: 4 and 5", x -> x.thing(SHEET, 4), x -> x.speed(0, 1), 4);
         looks("20: only 5", x -> x.thing(SHEET, 5), x -> x.speed(0, 1), 5);
+        looks("20: WET 98 with 10 alone, 99 with all others", x -> wetRider(x), x -> x.speed(0, 1), 10);
+    }
+
+    private static void wetRider(BeamSeats x) {
+        x.thing(RIDER, 10);
+        x.set(0, WET, 99);
     }
 
     private static void sheetFrom37(BeamSeats x) {
@@ -433,6 +440,26 @@ public final class BoundaryBestTest extends Boundary {
     private static void p24OfSeveralTheLeast() {
         looks("24: save(28)", BoundaryBestTest::riderAndThings, x -> x.save(28), 1);
         looks("24: save(29)", BoundaryBestTest::riderAndThings, x -> x.save(29), 2);
+    }
+
+    /** All eight on; a rider that is taken off gets on again a round later, and the sea comes before its goal. */
+    private static void allOn(BeamSeats x, int kind) {
+        for (int i = 0; i < 8; i++) {
+            x.thing(kind, 5);
+            x.set(i, OUT, i / 4);
+            x.set(i, GOAL, 59);
+            x.lay(i);
+        }
+    }
+
+    /** "lets fewest be LOST": be it seven of eight, or all. */
+    private static void p24FewestMayBeAll() {
+        looks("24: seven things are lost", x -> allOn(x, THING), x -> x.save(120), 0);
+        looks("24: all riders are lost", x -> allOn(x, RIDER), x -> x.save(120), 0);
+        BeamSeats x = after(y -> allOn(y, RIDER));
+        x.take(0);
+        due("24: seven in 58 seconds", x.then(58, 1), 7);
+        due("24: all in 59", x.then(59, 1), 8);
     }
 
     private static void washAndGuest(BeamSeats x) {

@@ -309,12 +309,13 @@ public final class BoundarySecondsTest extends Boundary {
             BeamSeats x = one(SHEET, 1, speed);
             due("13: a sheet with SPEED " + speed, x.seconds(1), speed <= 5 ? 1 : 0);
         }
-        BeamSeats x = one(SHEET, 1, 5);
-        x.set(0, WET, 0);
-        due("13: a sheet of WET 0", x.seconds(1), 0);
-        x.beam(BEAM, 0);
-        x.set(0, WET, 1);
-        due("13: a sheet of WET 1", x.seconds(1), 1);
+        int[][] wets = {{0, 0}, {1, 1}, {99, 1}};
+        for (int[] w : wets) {
+            BeamSeats x = one(SHEET, 1, 5);
+            x.set(0, WET, w[0]);
+            due("13: a sheet of WET " + w[0], x.seconds(1), w[1]);
+            due("13: its TIMES", x.of(0, TIMES), w[1]);
+        }
     }
 
     /** "SHEET: as WASH, or if b is 35 or more" */

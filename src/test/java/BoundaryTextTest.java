@@ -182,6 +182,8 @@ public final class BoundaryTextTest extends Boundary {
         fault(";".repeat(120), 0);
         fault("a".repeat(120), 0);
         fault("9".repeat(120), 0);
+        fault("a1".repeat(60), 0);
+        fault("1a".repeat(60), 0);
         fault("beam " + "0".repeat(112) + "060", 5);
         items("beam " + "0".repeat(112) + "059", 1);
     }

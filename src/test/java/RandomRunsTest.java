@@ -15,7 +15,8 @@ public final class RandomRunsTest {
     private static final int SIZE = -1000000007;
 
     private static final int RUNS = 1500;
-    private static final int CALLS = 512;
+    /** Of the 512 calls that an object is used for, what is left to look at its state in the end. */
+    private static final int CALLS = 512 - 7 - 8 * 10;
     private static final int[] WILD = {Integer.MIN_VALUE, Integer.MIN_VALUE + 1, -1000000001, -2, -1, 0, 1, 5, 6, 7, 8, 9,
         10, 11, 31, 32, 40, 41, 58, 59, 60, 99, 100, 120, 121, 200, 201, 400, 401, 9999, 10000, Integer.MAX_VALUE};
     private static final String[] NAMES = {"thing", "wash", "rider", "guest", "sheet", "thief"};
