@@ -313,37 +313,34 @@ public final class BoundaryTextTest extends Boundary {
         due("28: at 59", x.of(1, AT), 59);
     }
 
+    /** A part's least and most number come to the thing, and what it is at first if it isn't told. */
+    private static void part(String word, int most, int what, int first) {
+        BeamSeats x = told("wash 5 " + word + " 0;wash 5 " + word + " " + most + ";wash 5");
+        due("28: three with " + word, x.island(), 3);
+        due("28: " + word + " 0", x.of(0, what), 0);
+        due("28: " + word + " " + most, x.of(1, what), most);
+        due("28: no " + word, x.of(2, what), first);
+    }
+
     /** "perhaps out and a NUMBER (0 to 9)" */
     private static void p28OutIs0To9() {
         range("wash 5 out ", "", 0, 9);
         range("wash 5 out ", " wet 1 goal 2", 0, 9);
-        BeamSeats x = told("wash 5 out 0;wash 5 out 9;wash 5");
-        x.island();
-        due("28: OUT 0", x.of(0, OUT), 0);
-        due("28: OUT 9", x.of(1, OUT), 9);
-        due("28: OUT if it isn't told", x.of(2, OUT), 3);
+        part("out", 9, OUT, 3);
     }
 
     /** "perhaps wet and a NUMBER (0 to 99)" */
     private static void p28WetIs0To99() {
         range("wash 5 wet ", "", 0, 99);
         range("wash 5 out 1 wet ", " goal 2", 0, 99);
-        BeamSeats x = told("wash 5 wet 0;wash 5 wet 99;wash 5");
-        x.island();
-        due("28: WET 0", x.of(0, WET), 0);
-        due("28: WET 99", x.of(1, WET), 99);
-        due("28: WET if it isn't told", x.of(2, WET), 50);
+        part("wet", 99, WET, 50);
     }
 
     /** "perhaps goal and a NUMBER (0 to 59)" */
     private static void p28GoalIs0To59() {
         range("wash 5 goal ", "", 0, 59);
         range("wash 5 out 1 wet 2 goal ", "", 0, 59);
-        BeamSeats x = told("wash 5 goal 0;wash 5 goal 59;wash 5");
-        x.island();
-        due("28: GOAL 0", x.of(0, GOAL), 0);
-        due("28: GOAL 59", x.of(1, GOAL), 59);
-        due("28: GOAL if it isn't told", x.of(2, GOAL), 30);
+        part("goal", 59, GOAL, 30);
     }
 
     /** "beam and a NUMBER (0 to 59); speed and a NUMBER (1 to 10); thick and a NUMBER (1 to 40)" */
